@@ -28,8 +28,7 @@ public final class OddRanks {
     private static final int NOT_SO = 5;
 
     private final Tape tape = new Tape();
-    private final TextReader reader = new TextReader(tape);
-    private final Lasso lasso = new Lasso(tape);
+    private final Reader reader = new Reader(tape);
     private final Rankings finder = new Rankings();
     private final Automaton[] machines = new Automaton[MOST_AUTOMATA];
     private final Complement[] complements = new Complement[MOST_AUTOMATA];
@@ -70,7 +69,7 @@ public final class OddRanks {
             return refuse(NUMBER);
         }
         tape.open(n);
-        if (!reader.read()) {
+        if (!reader.readAutomata()) {
             return refuse(FAULTY);
         }
         count = reader.count;
@@ -232,23 +231,23 @@ public final class OddRanks {
 
     public int takes(int a, int n) {
         Automaton machine = machineAt(a);
-        int refusal = readLasso(machine, n);
+        int refusal = refusalOfLasso(machine, n);
         if (machine == null || refusal != 0) {
             return refuse(refusal);
         }
-        return answer(lassoRounds.isTaken(machine, lasso) ? 1 : 0);
+        return answer(lassoRounds.isTaken(machine, reader.stem, reader.round) ? 1 : 0);
     }
 
     public int lacks(int a, int n) {
         Complement other = complementAt(a);
-        int refusal = readLasso(machineAt(a), n);
+        int refusal = refusalOfLasso(machineAt(a), n);
         if (other == null || refusal != 0) {
             return refuse(refusal);
         }
         if (!other.stands()) {
             return refuse(NO_ROOM);
         }
-        return answer(lassoRounds.isTaken(other, lasso) ? 1 : 0);
+        return answer(lassoRounds.isTaken(other, reader.stem, reader.round) ? 1 : 0);
     }
 
     public int follows(int a, int rounds, int n) {
@@ -256,13 +255,13 @@ public final class OddRanks {
         if (machine != null && (rounds < 0 || rounds > MOST_ROUNDS)) {
             return refuse(NUMBER);
         }
-        int refusal = readLasso(machine, n);
+        int refusal = refusalOfLasso(machine, n);
         if (machine == null || refusal != 0) {
             return refuse(refusal);
         }
-        int set = machine.reachAlong(machine.begins, lasso.stem);
+        int set = machine.reachAlong(machine.begins, reader.stem);
         for (int round = 0; round < rounds; round++) {
-            set = machine.reachAlong(set, lasso.round);
+            set = machine.reachAlong(set, reader.round);
         }
         return answer(set);
     }
@@ -421,7 +420,7 @@ public final class OddRanks {
     }
 
     /** Reads the lasso on the tape; the number of the refusal, 0 if it stands. */
-    private int readLasso(Automaton machine, int n) {
+    private int refusalOfLasso(Automaton machine, int n) {
         if (machine == null) {
             return NONE_SUCH;
         }
@@ -429,7 +428,7 @@ public final class OddRanks {
             return NUMBER;
         }
         tape.open(n);
-        return lasso.read(machine.signs) ? 0 : FAULTY;
+        return reader.readLasso(machine.signs) ? 0 : FAULTY;
     }
 
     private static boolean isIn(int state, int set) {
@@ -622,23 +621,25 @@ public final class OddRanks {
         }
     }
 
-    /** Reads a text of automata into drafts, so that a fault leaves the old ones alone. */
-    private static final class TextReader {
+    /** Reads texts: automata into drafts, so that a fault leaves the old ones alone; lassos into a stem and a round. */
+    private static final class Reader {
         private final Tape tape;
         private final Row namePlaces = new Row(MOST_AUTOMATA);
         private final Row nameLengths = new Row(MOST_AUTOMATA);
         final Automaton[] drafts = new Automaton[MOST_AUTOMATA];
+        final Row stem = new Row(MOST_PART);
+        final Row round = new Row(MOST_PART);
         int count;
         private int signs;
 
-        TextReader(Tape tape) {
+        Reader(Tape tape) {
             this.tape = tape;
             for (int a = 0; a < MOST_AUTOMATA; a++) {
                 drafts[a] = new Automaton();
             }
         }
 
-        boolean read() {
+        boolean readAutomata() {
             count = 0;
             signs = 0;
             for (int line = 0; line < Tape.ROOM; line++) {
@@ -792,20 +793,9 @@ public final class OddRanks {
             machine.setArrow(from, sign, to, true);
             return true;
         }
-    }
 
-    /** A word that goes round: the letters of its stem and of its round. */
-    private static final class Lasso {
-        private final Tape tape;
-        final Row stem = new Row(MOST_PART);
-        final Row round = new Row(MOST_PART);
-
-        Lasso(Tape tape) {
-            this.tape = tape;
-        }
-
-        boolean read(int signs) {
-            if (!readPart(stem, '(', signs) || !readPart(round, ')', signs)) {
+        boolean readLasso(int signCount) {
+            if (!readPart(stem, '(', signCount) || !readPart(round, ')', signCount)) {
                 return false;
             }
             tape.step();
@@ -813,7 +803,7 @@ public final class OddRanks {
         }
 
         /** Letters up to the sign that ends them; a round has one at least. */
-        private boolean readPart(Row part, int ending, int signs) {
+        private boolean readPart(Row part, int ending, int signCount) {
             part.wipe(MOST_PART);
             for (int token = 0; token <= Tape.ROOM; token++) {
                 tape.step();
@@ -823,23 +813,22 @@ public final class OddRanks {
                 if (tape.kind != Tape.WORD) {
                     break;
                 }
-                if (!readWord(part, signs)) {
+                if (!readWord(part, signCount)) {
                     return false;
                 }
             }
             return tape.blame(Tape.FORM, tape.place);
         }
 
-        private boolean readWord(Row part, int signs) {
+        private boolean readWord(Row part, int signCount) {
             for (int i = 0; i < tape.length; i++) {
-                int sign = tape.byteAt(tape.place + i) - 'a';
-                if (sign < 0 || sign >= signs) {
+                if (tape.byteAt(tape.place + i) - 'a' >= signCount) {
                     return tape.blame(Tape.FORM, tape.place);
                 }
                 if (part.used >= MOST_PART) {
                     return tape.blame(Tape.MANY, tape.place);
                 }
-                part.push(sign);
+                part.push(tape.byteAt(tape.place + i) - 'a');
             }
             return true;
         }
@@ -941,32 +930,26 @@ public final class OddRanks {
             return reached;
         }
 
-        @Override
         int vertices() {
             return states;
         }
 
-        @Override
         int letterCount() {
             return signs;
         }
 
-        @Override
         boolean isFirst(int v) {
             return isIn(v, begins);
         }
 
-        @Override
         boolean isMarked(int v) {
             return isIn(v, finals);
         }
 
-        @Override
         int fan(int v, int sign) {
             return Integer.bitCount(arrowsOf(v, sign));
         }
 
-        @Override
         int goal(int v, int sign, int i) {
             int set = arrows.get(sign * MOST_STATES + v);
             int passed = 0;
@@ -1109,7 +1092,7 @@ public final class OddRanks {
             goals.used = 0;
             count = 0;
             meet(machine.begins);
-            for (int v = 0; v < count; v++) {
+            for (int v = 0; v < count && v < MOST_NODES; v++) {
                 for (int sign = 0; sign < machine.signs; sign++) {
                     starts.push(goals.used);
                     goFrom(keys.get(v), sign);
@@ -1268,34 +1251,28 @@ public final class OddRanks {
             return Rankings.greatestOf(low) == Rankings.greatestOf(high);
         }
 
-        @Override
         int vertices() {
             return count;
         }
 
-        @Override
         int letterCount() {
             return machine.signs;
         }
 
-        @Override
         boolean isFirst(int v) {
             return v == 0;
         }
 
-        @Override
         boolean isMarked(int v) {
             int key = keys.get(v);
             return key == 0 || (key & PAIR) != 0 && (key >> OWES & STATES) == 0;
         }
 
-        @Override
         int fan(int v, int sign) {
             int i = v * machine.signs + sign;
             return starts.get(i + 1) - starts.get(i);
         }
 
-        @Override
         int goal(int v, int sign, int i) {
             return goals.get(starts.get(v * machine.signs + sign) + i);
         }
@@ -1303,6 +1280,9 @@ public final class OddRanks {
 
     /** What a graph goes through while it reads a round again and again: vertices with places in the round. */
     private static final class Rounds extends Graph {
+        /** Stems that can still be lengthened: those of two letters, of which there are three. */
+        private static final int MOST_SHORTER = 9;
+
         private final Loops loops;
         private Row from = new Row(0);
         private Row fresh = new Row(0);
@@ -1316,10 +1296,10 @@ public final class OddRanks {
             this.machine = machine;
         }
 
-        boolean isTaken(Graph reads, Lasso lasso) {
-            setOut(reads, lasso.round);
-            for (int i = 0; i < lasso.stem.used; i++) {
-                advance(lasso.stem.get(i), false);
+        boolean isTaken(Graph reads, Row stem, Row goesRound) {
+            setOut(reads, goesRound);
+            for (int i = 0; i < stem.used; i++) {
+                advance(stem.get(i), false);
                 turn();
             }
             loops.run(this);
@@ -1380,7 +1360,7 @@ public final class OddRanks {
         private int lengthened(int stems, int sign) {
             int signs = machine.letterCount();
             int longer = 0;
-            for (int stem = 0; stem * signs + sign < Integer.SIZE && stem < Integer.SIZE; stem++) {
+            for (int stem = 0; stem < MOST_SHORTER; stem++) {
                 if (isIn(stem, stems)) {
                     longer |= 1 << stem * signs + sign;
                 }
@@ -1415,32 +1395,26 @@ public final class OddRanks {
             return stems;
         }
 
-        @Override
         int vertices() {
             return machine.vertices() * MOST_PART;
         }
 
-        @Override
         int letterCount() {
             return machine.letterCount();
         }
 
-        @Override
         boolean isFirst(int v) {
             return v % MOST_PART == 0 && from.get(v / MOST_PART) != 0;
         }
 
-        @Override
         boolean isMarked(int v) {
             return marks.get(v / MOST_PART) != 0;
         }
 
-        @Override
         int fan(int v, int sign) {
             return round.get(v % MOST_PART) == sign ? machine.fan(v / MOST_PART, sign) : 0;
         }
 
-        @Override
         int goal(int v, int sign, int i) {
             int place = v % MOST_PART + 1;
             int to = machine.goal(v / MOST_PART, sign, i);
@@ -1483,7 +1457,7 @@ public final class OddRanks {
                 }
             }
             firsts = count;
-            for (int v = 0; v < count; v++) {
+            for (int v = 0; v < count && v < MOST_THREES; v++) {
                 if (!meetFrom(v)) {
                     return false;
                 }
@@ -1535,32 +1509,26 @@ public final class OddRanks {
             return codeOf(state, other.goal(node, sign, i % fan), marksAfter.get(v));
         }
 
-        @Override
         int vertices() {
             return count;
         }
 
-        @Override
         int letterCount() {
             return one.signs;
         }
 
-        @Override
         boolean isFirst(int v) {
             return v < firsts;
         }
 
-        @Override
         boolean isMarked(int v) {
             return wanted.get(v) != 0;
         }
 
-        @Override
         int fan(int v, int sign) {
             return one.fan(states.get(v), sign) * other.fan(nodes.get(v), sign);
         }
 
-        @Override
         int goal(int v, int sign, int i) {
             return numbers.get(codeAfter(v, sign, i)) - 1;
         }
@@ -1745,7 +1713,7 @@ public final class OddRanks {
                     }
                 }
             }
-            for (int head = 0; head < queue.used; head++) {
+            for (int head = 0; head < queue.used && head < n; head++) {
                 int found = searchFrom(graph, queue.get(head), home);
                 if (found != NONE) {
                     return found;
