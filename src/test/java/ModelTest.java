@@ -13,10 +13,12 @@ public final class ModelTest {
     return (int) ((seed >>> 33) % n);
   }
 
-  /** Mostly 0 .. n - 1, now and then below or above. */
+  private static final int[] FAR = {Integer.MIN_VALUE, Integer.MAX_VALUE, Integer.MIN_VALUE + 1, -2, -32, 31, 32, 33, 64, 1 << 30, 301, 2401};
+
+  /** Mostly 0 .. n - 1, now and then below or above, or far away. */
   private static int about(int n) {
-    int k = any(14);
-    return k == 0 ? -1 : k == 1 ? n : n > 0 ? any(n) : 0;
+    int k = any(28);
+    return k < 2 ? -1 : k < 4 ? n : k == 4 ? FAR[any(FAR.length)] : n > 0 ? any(n) : 0;
   }
 
   private static String automataText() {
@@ -108,7 +110,7 @@ public final class ModelTest {
     String text = kind < 2 ? automataText() : lassoText();
     if (kind == 1 || any(3) == 0) text = spoilt(text);
     feed(run, x, m, text);
-    int n = any(12) == 0 ? any(420) - 10 : any(6) == 0 ? Math.max(0, m.size()) : m.size() - (20 - text.length() % 20) % 20;
+    int n = any(12) == 0 ? any(420) - 10 : any(30) == 0 ? about(400) : any(6) == 0 ? Math.max(0, m.size()) : m.size() - (20 - text.length() % 20) % 20;
     String told = "(" + a + ", " + n + ") of " + text;
     switch (kind) {
       case 0: case 1: due(run, "automata" + told, x.automata(n), m.automata(n)); break;

@@ -114,6 +114,9 @@ public final class TextTest {
     fault("letters 2;auto x states 2;auto x;", 3, 31);
     fault("letters 2;letters 2", 3, 10);
     fault("letters 2;letters", 3, 10);
+    fault("letters 1;letters 2", 3, 10);
+    fault("letters 2;auto abcdefg states 2;auto abcdefg states 2", 3, 37);
+    fault("letters 2;auto ab states 2;auto abc states 2;auto ab states 2", 3, 50);
     fault("letters 2;letters 12", 3, 10);
     fault("letters 2;auto x states 2;letters )", 3, 26);
     fault(A + ";start 0;start 0", 3, 34);
@@ -158,6 +161,10 @@ public final class TextTest {
     while (full.length() < 400) full.append(' ');
     Check.answered(3, "400 bytes", x, Check.automata(x, full.toString()), 2);
     Check.due(4, "fault() without one", x.fault(), 0);
+    Check.answered(3, "names that are alike", x, Check.automata(x, "letters 1;auto ab states 1;auto ac states 1;auto a states 1"), 3);
+    Check.answered(3, "names that are alike from behind", x, Check.automata(x, "letters 1;auto ab states 1;auto bb states 1;auto b states 2"), 3);
+    Check.answered(6, "the third one", x, x.automaton(2, 0), 2);
+    Check.answered(3, "the kept words as parts of names", x, Check.automata(x, "letters 1;auto edges states 1;auto tates states 1;auto autos states 1"), 3);
   }
 
   private static void toldOfAutomata() {
