@@ -1290,6 +1290,7 @@ public final class OddRanks {
         private final Row counted = new Row(0);
         private Graph machine;
         private Row round = counted;
+        private int stride;
 
         Rounds(Loops loops, Graph machine) {
             this.loops = loops;
@@ -1332,6 +1333,7 @@ public final class OddRanks {
         private void setOut(Graph reads, Row goesRound) {
             machine = reads;
             round = goesRound;
+            stride = reads.vertices();
             from.wipe(reads.vertices());
             fresh.wipe(reads.vertices());
             marks.wipe(reads.vertices());
@@ -1384,11 +1386,19 @@ public final class OddRanks {
             }
         }
 
+        private int nodeOf(int v) {
+            return stride > 0 ? v % stride : 0;
+        }
+
+        private int placeOf(int v) {
+            return stride > 0 ? v / stride : 0;
+        }
+
         /** The stems (bits) behind which the round can be gone through well. */
         private int stemsTaken() {
             int stems = 0;
             for (int v = 0; v < machine.vertices(); v++) {
-                if (from.get(v) != 0 && loops.isGood(v * MOST_PART)) {
+                if (from.get(v) != 0 && loops.isGood(v)) {
                     stems |= from.get(v);
                 }
             }
@@ -1396,29 +1406,30 @@ public final class OddRanks {
         }
 
         int vertices() {
-            return machine.vertices() * MOST_PART;
+            return stride * round.used;
         }
 
+        /** By its place each vertex has one letter alone; which one that is, nobody asks. */
         int letterCount() {
-            return machine.letterCount();
+            return 1;
         }
 
         boolean isFirst(int v) {
-            return v % MOST_PART == 0 && from.get(v / MOST_PART) != 0;
+            return v < stride && from.get(v) != 0;
         }
 
         boolean isMarked(int v) {
-            return marks.get(v / MOST_PART) != 0;
+            return marks.get(nodeOf(v)) != 0;
         }
 
         int fan(int v, int sign) {
-            return round.get(v % MOST_PART) == sign ? machine.fan(v / MOST_PART, sign) : 0;
+            return machine.fan(nodeOf(v), round.get(placeOf(v)));
         }
 
         int goal(int v, int sign, int i) {
-            int place = v % MOST_PART + 1;
-            int to = machine.goal(v / MOST_PART, sign, i);
-            return to * MOST_PART + (place < round.used ? place : 0);
+            int place = placeOf(v);
+            int to = machine.goal(nodeOf(v), round.get(place), i);
+            return place + 1 < round.used ? (place + 1) * stride + to : to;
         }
     }
 
@@ -1539,7 +1550,6 @@ public final class OddRanks {
      * It goes deep first, without recursion, and parts the vertices into what can be come to from each other.
      */
     private static final class Loops {
-        private static final int MOST_STEPS = 1 << 24;
         private static final int LETTER = 16;
         private static final int FAN = (1 << LETTER) - 1;
 
@@ -1551,6 +1561,7 @@ public final class OddRanks {
         private final Row order = new Row(0);
         private final Row low = new Row(0);
         private final Row flags = new Row(0);
+        /** The letter and, in the low bits, how many have been gone to by it. */
         private final Row cursor = new Row(0);
         private final Row path = new Row(0);
         private final Row held = new Row(0);
@@ -1578,29 +1589,33 @@ public final class OddRanks {
             depth = 0;
             heldCount = 0;
             entered = 0;
-            for (int v = 0; v < n; v++) {
-                if (graph.isFirst(v) && order.get(v) == 0) {
-                    goDeep(graph, v);
+            for (int root = 0; root < n; root++) {
+                if (graph.isFirst(root) && order.get(root) == 0) {
+                    enter(root);
+                    for (int step = 0; step < 2 * n && depth > 0; step++) {
+                        goOn(graph, path.get(depth - 1));
+                    }
                 }
             }
         }
 
-        /** A cursor is the letter and, in its low bits, how many have been gone to by it. */
-        private void goDeep(Graph graph, int root) {
-            enter(root);
-            for (int step = 0; step < MOST_STEPS && depth > 0; step++) {
-                int v = path.get(depth - 1);
-                int sign = cursor.get(v) >> LETTER;
-                int i = cursor.get(v) & FAN;
-                if (sign >= graph.letterCount()) {
-                    leave(graph, v);
-                } else if (i >= graph.fan(v, sign)) {
-                    cursor.put(v, sign + 1 << LETTER);
-                } else {
-                    cursor.put(v, cursor.get(v) + 1);
-                    follow(v, graph.goal(v, sign, i));
+        /** Deeper to the next vertex that is new, or back if there is none. */
+        private void goOn(Graph graph, int v) {
+            int i = cursor.get(v) & FAN;
+            for (int sign = cursor.get(v) >> LETTER; sign < graph.letterCount(); sign++) {
+                int fan = graph.fan(v, sign);
+                for (; i < fan; i++) {
+                    int to = graph.goal(v, sign, i);
+                    if (order.get(to) == 0) {
+                        cursor.put(v, (sign << LETTER) + i + 1);
+                        enter(to);
+                        return;
+                    }
+                    lookAt(v, to);
                 }
+                i = 0;
             }
+            leave(graph, v);
         }
 
         private void enter(int v) {
@@ -1614,14 +1629,14 @@ public final class OddRanks {
             heldCount++;
         }
 
-        private void follow(int v, int to) {
+        /** What a vertex that isn't new tells of the one that goes to it. */
+        private void lookAt(int v, int to) {
+            int told = flags.get(to);
             if (to == v) {
                 raise(v, TO_ITSELF);
-            } else if (order.get(to) == 0) {
-                enter(to);
-            } else if (has(to, HELD)) {
+            } else if ((told & HELD) != 0) {
                 low.put(v, Math.min(low.get(v), order.get(to)));
-            } else if (has(to, GOOD)) {
+            } else if ((told & GOOD) != 0) {
                 raise(v, GOOD);
             }
         }
