@@ -86,6 +86,11 @@ public final class TextTest {
     fault("2", 1, 0);
     fault("states 1", 1, 0);
     fault("lettersx 1", 1, 0);
+    fault("better 1", 1, 0);
+    fault("betters 1", 1, 0);
+    fault("letters 2;duto x states 1", 1, 10);
+    fault("letters 2;auto x stated 1", 1, 17);
+    fault("letters 2;auto x ttates 1", 1, 17);
     fault(A + ";edge 0 c 1", 1, 33);
     fault(A + ";edge 0 ab 1", 1, 33);
     fault(A + ";edge 0 0 1", 1, 33);
