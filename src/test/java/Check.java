@@ -10,13 +10,30 @@ final class Check {
       + ";edge 1 b 2;edge 2 b 3;edge 3 a 0;edge 3 b 0;auto small states 1;start 0";
 
   private static int wrong;
+  private static String sentence = "";
 
   private Check() { }
+
+  /** What the document says, word by word: the answers from here on are held against it, and told with it. */
+  static void says(String words) {
+    sentence = words;
+  }
 
   static void due(int promise, String call, int got, int want) {
     if (got != want) {
       wrong++;
-      System.out.println("promise " + promise + ": " + call + " answered " + got + ", due is " + want);
+      System.out.println("promise " + promise + ": " + call + " answered " + got + ", due is " + want + told());
+    }
+  }
+
+  private static String told() {
+    return sentence.isEmpty() ? "" : " (\"" + sentence + "\")";
+  }
+
+  static void dueText(int promise, String call, String got, String want) {
+    if (!got.equals(want)) {
+      wrong++;
+      System.out.println("promise " + promise + ": " + call + " answered " + got + ", due is " + want + told());
     }
   }
 
@@ -90,7 +107,7 @@ final class Check {
     String got = shown(x);
     if (!got.equals(want)) {
       wrong++;
-      System.out.println("promise " + promise + ": " + call + " showed " + got + ", due is " + want);
+      System.out.println("promise " + promise + ": " + call + " showed " + got + ", due is " + want + told());
     }
     int letters = want.equals("-") ? 0 : want.length() - 2;
     due(27, "letter(-1) throws", throwsAt(x, -1), 1);
