@@ -24,6 +24,7 @@ public final class LimitsTest {
   }
 
   private static void nodes() {
+    Check.says("There are 300 at most (a 301st: NO ROOM).");
     OddRanks x = Check.with(NODES_300);
     Check.answered(12, "complement(0)", x, x.complement(0), 300);
     Check.due(12, "the model's complement(0)", model(NODES_300).complement(0), 300);
@@ -45,6 +46,7 @@ public final class LimitsTest {
   }
 
   private static void threes() {
+    Check.says("1,000 threes at most (a 1,001st: NO ROOM).");
     OddRanks x = Check.with(THREES_1000);
     Model m = model(THREES_1000);
     Check.answered(24, "within(1, 0)", x, x.within(1, 0), 0);

@@ -110,7 +110,7 @@ public final class RefusalEdgesTest {
     for (int what : new int[] {-1, 3, 4, MIN, MAX}) refused(16, "nodes(0, " + what + ")", 1, x -> x.nodes(0, what));
     Check.says("NONE: 1 (i below 0, too); 3");
     for (int i : new int[] {-1, -2, MIN}) refused(15, "next(0, 0, 0, " + i + ")", 1, x -> x.next(0, 0, 0, i));
-    Check.says("no NODE");
+    Check.says("1 there is none such (no TEXT, AUTOMATON, STATE, NODE, letter, what)");
     for (int node : new int[] {-1, 3, 4, 299, 300, 301, MIN, MAX}) {
       refused(13, "node(0, " + node + ", 0)", 1, x -> x.node(0, node, 0));
       refused(13, "node(0, " + node + ", 5)", 1, x -> x.node(0, node, 5));
