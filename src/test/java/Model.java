@@ -685,6 +685,11 @@ final class Model {
 
   int met() { return met; }
 
+  /** No call of the face: tells the test how many letters there are, and leaves the trouble alone. */
+  int lettersShown() {
+    return shown == null ? 0 : shown.stem.size() + shown.round.size();
+  }
+
   int shown(int what) {
     return call(() -> {
       need(what == 0 || what == 1, 1);

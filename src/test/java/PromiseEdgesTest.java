@@ -281,6 +281,26 @@ public final class PromiseEdgesTest {
     }
   }
 
+  /** One word alone is taken, that of a and b by turns: it is told by a stem of any length and rounds of two letters. */
+  private static void turns() {
+    Check.says("Of all LASSOS with a STEM of so many letters (0 .. 3) and a ROUND of so many (1 .. 3)");
+    for (int letters = 2; letters <= 3; letters++) {
+      OddRanks x = Check.with("letters " + letters + ";auto x states 2;start 0;final 0;edge 0a1;edge 1b0;auto y states 1;start 0;final 0;edge 0b0");
+      int stems = 1;
+      for (int stem = 0; stem <= 3; stem++) {
+        int rounds = letters;
+        for (int round = 1; round <= 3; round++) {
+          Check.answered(20, "by turns " + stem + ", " + round, x, x.counts(0, stem, round), round == 2 ? 1 : 0);
+          Check.answered(21, "not by turns " + stem + ", " + round, x, x.others(0, stem, round), stems * rounds - (round == 2 ? 1 : 0));
+          Check.answered(20, "b alone " + stem + ", " + round, x, x.counts(1, stem, round), 1);
+          Check.answered(21, "not b alone " + stem + ", " + round, x, x.others(1, stem, round), stems * rounds - 1);
+          rounds *= letters;
+        }
+        stems *= letters;
+      }
+    }
+  }
+
   private static void shows() {
     Check.says("A LASSO that it TAKES is SHOWN then, else none is.");
     OddRanks x = Check.with("letters 1;auto x states 1;start 0;final 0;edge 0a0;auto y states 1;auto z states 1;start 0;edge 0a0");
@@ -384,6 +404,29 @@ public final class PromiseEdgesTest {
     }
   }
 
+  /** Behind each act the complement is another one, though it was asked for ahead of it; and it is the old one again. */
+  private static void acted() {
+    Check.says("An EDGE comes (is), or goes: EDGES then");
+    OddRanks x = Check.with("letters 2;auto x states 2;start 0;final 1;edge 0a1;edge 1b1;auto y states 1;start 0;final 0;edge 0a0;edge 0b0");
+    for (int k = 0; k < 4; k++) {
+      if (k > 0) Check.answered(28, "link " + k, x, x.link(0, 0, 1, 0, k % 2 == 1), k % 2 == 1 ? 3 : 2);
+      Check.answered(20, "counts(0, 3, 1), " + k, x, x.counts(0, 3, 1), k % 2 == 1 ? 3 : 1);
+      Check.answered(21, "others(0, 3, 1), " + k, x, x.others(0, 3, 1), k % 2 == 1 ? 13 : 15);
+      Check.answered(15, "next(0, 0, 1, 0), " + k, x, x.next(0, 0, 1, 0), k % 2 == 1 ? 0 : 2);
+    }
+    Check.says("A STATE is FINAL (is), or not: FINAL ones (bits)");
+    for (int k = 0; k < 4; k++) {
+      if (k > 0) Check.answered(29, "mark " + k, x, x.mark(1, 0, k % 2 == 0), 1 - k % 2);
+      Check.answered(23, "all(1), " + k, x, x.all(1), 1 - k % 2);
+      Check.answered(16, "PAIRS of 1, " + k, x, x.nodes(1, 2), k % 2);
+    }
+    Check.says("The AUTOMATON may begin (is) in a STATE, or not: those (bits)");
+    for (int k = 0; k < 4; k++) {
+      if (k > 0) Check.answered(30, "begin " + k, x, x.begin(1, 0, k % 2 == 0), 1 - k % 2);
+      Check.answered(13, "NODE 0 of 1, " + k, x, x.node(1, 0, 0), 1 - k % 2);
+    }
+  }
+
   private static void calls() {
     Check.says("An object is used for at most 512 calls after it has been made");
     OddRanks x = new OddRanks();
@@ -434,9 +477,11 @@ public final class PromiseEdgesTest {
     rankings();
     nodes();
     lassos();
+    turns();
     shows();
     letters();
     acts();
+    acted();
     calls();
     told();
     Check.end("PromiseEdgesTest");

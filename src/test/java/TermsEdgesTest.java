@@ -40,6 +40,25 @@ public final class TermsEdgesTest {
     taken("letters 2;auto x states 3;start 0;final 2;edge 0a1;edge 1a2;edge 2b0", "(aabb)", 0);
   }
 
+  /** A final state beside one, two, three others: below the greatest rank it has each even one, and no odd one. */
+  private static void evenOnes() {
+    String[] texts = {"states 2;final 0", "states 3;final 0", "states 4;final 0", "states 2;final 1", "states 3;final 2", "states 4;final 3"};
+    for (int k = 0; k < 6; k++) {
+      OddRanks x = Check.with("letters 1;auto x " + texts[k]);
+      int others = k % 3 + 1;
+      int rank = 2 * others - 1;
+      int set = (2 << others) - 1;
+      int state = k < 3 ? 0 : others;
+      int orders = others == 1 ? 1 : others == 2 ? 2 : 6;
+      Check.answered(10, "rankings of " + texts[k], x, x.rankings(0, set, rank), orders * others);
+      for (int i = 0; i < orders * others; i++) {
+        int want = k < 3 ? 2 * (i / orders) : 2 * (i % others);
+        Check.answered(11, "the FINAL one in the one at " + i + " of " + texts[k], x, x.ranked(0, set, rank, i, state), want);
+      }
+      Check.refused(11, "no more of " + texts[k], x, x.ranked(0, set, rank, orders * others, state), 5);
+    }
+  }
+
   private static void rankings() {
     OddRanks x = Check.with(FOUR);
     Check.says("a number (a RANK, 0 .. 7) to each of its STATES");
@@ -54,6 +73,7 @@ public final class TermsEdgesTest {
     Check.answered(10, "rankings(0, 3, 1)", y, y.rankings(0, 3, 1), 1);
     Check.answered(11, "of the FINAL one", y, y.ranked(0, 3, 1, 0, 1), 0);
     Check.answered(10, "of the FINAL one alone", y, y.rankings(0, 2, 1), 0);
+    evenOnes();
     Check.says("TIGHT: the greatest RANK is odd, and each odd number below it is a RANK, too");
     OddRanks z = Check.with("letters 1;auto x states 2");
     int[][] three = {{1, 3}, {3, 1}};
@@ -206,11 +226,53 @@ public final class TermsEdgesTest {
     int[] below = {0, 1, 1, 0, 0, 0, 2, 2};
     for (int v = 0; v < 8; v++) Check.answered(13, "node(0, " + v + ", 5)", x, x.node(0, v, 5), below[v]);
     Check.answered(16, "PAIRS that aren't", x, x.nodes(0, 2), 3);
+    belowOf("letters 1;auto x states 3;start 0;start 1;start 2;edge 0a0;edge 1a1;edge 2a2");
+    belowOf("letters 2;auto x states 3;start 0;start 1;start 2;final 1;edge 0a0;edge 1a1;edge 2a2;edge 0b0;edge 2b1;edge 1b2");
     Check.says("same set");
     OddRanks y = Check.with("letters 2;auto x states 2;start 0;start 1;edge 0a0;edge 1a1;edge 0b0");
     for (int v = 0; v < y.complement(0); v++) {
       if (y.node(0, v, 0) == 1) Check.answered(13, "NODE " + v + " of the set of 0 alone", y, y.node(0, v, 5), 0);
     }
+  }
+
+  /** What is told of each node: its set, greatest rank, what owes, then the ranks. */
+  private static int[][] told(String text, int n) {
+    int[][] told = new int[n][7];
+    for (int v = 0; v < n; v++) {
+      OddRanks x = Check.with(text);
+      for (int what = 0; what < 3; what++) told[v][what] = x.node(0, v, what);
+      for (int q = 0; q < x.automaton(0, 0); q++) told[v][3 + q] = x.rank(0, v, q);
+    }
+    return told;
+  }
+
+  private static boolean isBelow(int[] p, int[] q) {
+    boolean is = p[1] >= 0 && q[1] == p[1] && p[0] == q[0] && (p[2] & q[2]) == q[2];
+    boolean isUnlike = p[2] != q[2];
+    for (int state = 3; state < 7; state++) {
+      is = is && p[state] <= q[state];
+      isUnlike = isUnlike || p[state] != q[state];
+    }
+    return is && isUnlike;
+  }
+
+  /** By the words of the document, from what else is told of the nodes. */
+  private static void belowOf(String text) {
+    OddRanks x = Check.with(text);
+    int n = x.complement(0);
+    int[][] told = told(text, n);
+    int free = 0;
+    int deepest = 0;
+    for (int v = 0; v < n; v++) {
+      int want = 0;
+      for (int u = 0; u < n; u++) if (isBelow(told[v], told[u])) want++;
+      if (told[v][1] >= 0 && want == 0) free++;
+      if (told[v][2] != 0) deepest = Math.max(deepest, want);
+      OddRanks y = Check.with(text);
+      Check.answered(13, "node(0, " + v + ", 5) of " + text, y, y.node(0, v, 5), want);
+    }
+    Check.answered(16, "nodes(0, 2) of " + text, x, x.nodes(0, 2), free);
+    Check.due(13, "whether one that owes is below several in " + text, deepest > 2 ? 1 : 0, 1);
   }
 
   private static void shown(String text, int call, String want) {
@@ -228,6 +290,13 @@ public final class TermsEdgesTest {
     shown("letters 1;auto x states 2;start 0;final 0;final 1;edge 0a1;edge 1a0", 22, "(aa)");
     shown("letters 2;auto x states 3;start 0;final 1;final 2;edge 0a2;edge 0b1;edge 1b1;edge 2b2", 22, "a(b)");
     shown("letters 2;auto x states 2;final 0;final 1;start 0;edge 1a1", 22, "-");
+    for (String letter : new String[] {"a", "b", "c"}) {
+      for (int last = 1; last < 4; last++) {
+        String fan = ";edge 0" + letter + "1;edge 0" + letter + "2;edge 0" + letter + "3;edge " + last + "b" + last;
+        shown("letters 3;auto x states 4;start 0;final 1;final 2;final 3" + fan, 22, letter + "(b)");
+        shown("letters 3;auto x states 4;start 0;final " + last + fan, 22, letter + "(b)");
+      }
+    }
     Check.says("nodes are met by a queue: from the first ones on, one by one, by letters, then as told");
     shown("letters 2;auto x states 4;start 0;final 3;edge 0b1;edge 0a2;edge 1a3;edge 2b3;edge 3a3", 22, "ab(a)");
     shown("letters 2;auto x states 4;start 0;final 3;edge 0b1;edge 0a2;edge 1a3;edge 3a3;edge 2a2", 22, "ba(a)");
@@ -241,6 +310,27 @@ public final class TermsEdgesTest {
     Check.says("(Of several first ones: by their numbers.)");
     shown("letters 2;auto x states 3;start 2;start 1;final 1;final 2;edge 1b1;edge 2a2", 22, "(b)");
     shown("letters 2;auto x states 4;start 3;start 1;final 0;final 2;edge 3a0;edge 1b2;edge 0a0;edge 2a2", 22, "b(a)");
+    shown("letters 1;auto x states 2;start 0;start 1;final 1;edge 0a1;edge 1a0", 22, "(aa)");
+    shown("letters 1;auto x states 4;start 0;start 1;start 2;start 3;final 3;edge 0a1;edge 1a2;edge 2a3;edge 3a0", 22, "(aaaa)");
+    shown("letters 1;auto x states 3;start 0;start 2;final 2;edge 0a1;edge 1a2;edge 2a1", 22, "(aa)");
+  }
+
+  /** State 0 goes on with itself and with others, but nothing begins there. */
+  private static void firstThrees() {
+    OddRanks x = Check.with("letters 1;auto x states 3;edge 0a0;edge 0a1;edge 1a1;auto y states 1");
+    Check.answered(24, "it may begin nowhere", x, x.within(0, 1), 1);
+    Check.due(25, "nothing is met", x.met(), 0);
+    int[][] due = {{2, 1}, {1, 2}, {0, 3}};
+    for (int[] one : due) {
+      x.begin(0, one[0], true);
+      Check.answered(24, "it may begin in " + one[0] + ", too", x, x.within(0, 1), 1);
+      Check.due(25, "met()", x.met(), one[1]);
+    }
+    for (int q = 2; q >= 0; q--) {
+      x.begin(0, q, false);
+      Check.answered(24, "not in " + q, x, x.within(0, 1), 1);
+      Check.due(25, "met() when it may not begin in " + q, x.met(), q == 0 ? 0 : 2);
+    }
   }
 
   private static void graphs() {
@@ -258,6 +348,7 @@ public final class TermsEdgesTest {
     shown("letters 1;auto x states 1;final 0;edge 0a0;auto y states 1", 24, "-");
     shown("letters 1;auto x states 1;start 0;final 0;edge 0a0;auto y states 1", 24, "a(aa)");
     shown("letters 2;auto x states 2;start 1;start 0;final 0;final 1;edge 0b0;edge 1a1;auto y states 1", 24, "b(bb)");
+    firstThrees();
     Check.says("the mark of these: 1, if it is 0 and the STATE gone from is FINAL; 0, if it is 1 and the NODE gone from is; else as it is");
     shown("letters 1;auto x states 1;start 0;edge 0a0;auto y states 1", 24, "-");
     shown("letters 1;auto x states 2;start 0;final 1;edge 0a1;edge 1a0;auto y states 1", 24, "aa(aa)");

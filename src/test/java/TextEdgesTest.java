@@ -40,6 +40,55 @@ public final class TextEdgesTest {
     }
   }
 
+  /** What stands behind the first n bytes is on the tape, too, and must not be looked at. */
+  private static void cut(String read, String behind, int automata, int fault) {
+    OddRanks x = new OddRanks();
+    Check.put(x, read + behind);
+    int got = x.automata(read.length());
+    if (fault == 0) Check.answered(3, "automata of " + read + " ahead of " + behind, x, got, automata);
+    else Check.refused(3, "automata of " + read + " ahead of " + behind, x, got, 4);
+    Check.due(4, "fault() of " + read + " ahead of " + behind, x.fault(), fault);
+    Check.due(5, "where() of " + read + " ahead of " + behind, x.where(), fault == 0 ? -1 : read.length());
+  }
+
+  private static void cutLasso(String read, String behind, int fault) {
+    OddRanks x = Check.with("letters 2;auto x states 1;start 0;final 0;edge 0a0;edge 0b0");
+    Check.put(x, read + behind);
+    int got = x.takes(0, read.length());
+    if (fault == 0) Check.answered(17, "takes of " + read + " ahead of " + behind, x, got, 1);
+    else Check.refused(17, "takes of " + read + " ahead of " + behind, x, got, 4);
+    Check.due(4, "fault() of " + read + " ahead of " + behind, x.fault(), fault);
+    Check.due(5, "where() of " + read + " ahead of " + behind, x.where(), fault == 0 ? -1 : read.length());
+  }
+
+  private static void cuts() {
+    Check.says("The first n bytes of THE TAPE (it is empty then) are the AUTOMATA from now on: how many");
+    for (String behind : new String[] {"", " ", "0", "1", "a", "abcdefg", ";", "#", "(", " 1", ";auto y states 1", ";letters 1"}) {
+      cut("letters 1", behind, 0, 5);
+      cut("letters 1;auto x states 1", behind, 1, 0);
+      cut("letters 1;auto x states 1;start 0", behind, 1, 0);
+      cut("letters 1;auto x states 1;edge 0a0", behind, 1, 0);
+      cut("letters", behind, 0, 1);
+      cut("letters 1;auto", behind, 0, 1);
+      cut("letters 1;auto abcdefg", behind, 0, 1);
+      cut("letters 1;auto x states", behind, 0, 1);
+      cut("letters 1;auto x states 1;start", behind, 0, 1);
+      cut("letters 1;auto x states 1;edge 0a", behind, 0, 1);
+      cut("letters 1;auto x states 1;", behind, 0, 1);
+      cut("", behind, 0, 1);
+    }
+    Check.says("The first n bytes of THE TAPE (it is empty then) are a LASSO");
+    for (String behind : new String[] {"", " ", "a", "aaaaaaa", "c", "0", ")", "(b)", "#"}) {
+      cutLasso("a(b)", behind, 0);
+      cutLasso("a(b", behind, 1);
+      cutLasso("a(", behind, 1);
+      cutLasso("aaaaaaa bbb", behind, 1);
+      cutLasso("(aaaaaaa bbb", behind, 1);
+      cutLasso("aaaaaaa", behind, 1);
+      cutLasso("", behind, 1);
+    }
+  }
+
   private static String blanks(int n) {
     return " ".repeat(n);
   }
@@ -164,6 +213,16 @@ public final class TextEdgesTest {
       good("letters 1;auto " + word.substring(0, word.length() - 1) + " states 1", 1);
       good("letters 1;auto " + (word.substring(1) + "x") + " states 1", 1);
     }
+    for (String word : new String[] {"letters", "auto", "states", "start", "final", "edge"}) {
+      for (int k = 0; k < word.length(); k++) {
+        String other = word.substring(0, k) + "q" + word.substring(k + 1);
+        good("letters 1;auto " + other + " states 1", 1);
+        bad("letters 1;" + other + " 1", 1, 10);
+        bad("letters 1;auto x states 1;" + other + " 0", 1, 26);
+        bad("letters 1;auto x " + other + " 1", 1, 17);
+        bad(other + " 1", 1, 0);
+      }
+    }
     bad("letters 1;auto 1 states 1", 1, 15);
     bad("letters 1;auto ; states 1", 1, 15);
     bad("letters 1;auto ( states 1", 1, 15);
@@ -172,6 +231,14 @@ public final class TextEdgesTest {
     bad("letters 1;auto x states 1;auto y states 1;auto x states 1", 3, 47);
     bad("letters 1;auto x states 1;auto y states 1;auto y states 1", 3, 47);
     good("letters 1;auto xy states 1;auto x states 1;auto xyz states 1", 3);
+    for (int n = 1; n <= 7; n++) {
+      String name = "abcdefg".substring(0, n);
+      bad("letters 1;auto " + name + " states 1;auto " + name + " states 1", 3, 30 + n);
+      bad("letters 1;auto q states 1;auto " + name + " states 1;auto " + name + " states 1", 3, 46 + n);
+      for (int k = 0; k < n; k++) {
+        good("letters 1;auto " + name + " states 1;auto " + name.substring(0, k) + "z" + name.substring(k + 1) + " states 1", 2);
+      }
+    }
     good("letters 1;auto xa states 1;auto xb states 1;auto ab states 1", 3);
   }
 
@@ -365,6 +432,7 @@ public final class TextEdgesTest {
 
   public static void main(String[] args) {
     tape();
+    cuts();
     tokens();
     lines();
     names();
